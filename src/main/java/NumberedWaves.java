@@ -213,14 +213,7 @@ public final class NumberedWaves {
         if (!isBelow(holder, HOLDERS)) {
             return BAD;
         }
-        int sum = 0;
-        for (int i = 0; i < tickets.size; i++) {
-            int number = tickets.second[i];
-            if (tickets.first[i] == holder && tickets.firstWithSecond(number) == i) {
-                sum += worthOf(number);
-            }
-        }
-        return sum;
+        return claimsBy(waves(), holder);
     }
 
     public int good(int ticket) {
@@ -258,11 +251,11 @@ public final class NumberedWaves {
         if (!isFrom(n, 1, LONGEST_RUN) || !isBelow(what, 2)) {
             return BAD;
         }
+        Waves now = waves();
         int best = NONE;
         int most = NONE;
-        int last = waves().last();
-        for (int first = 1; first + n - 1 <= last; first++) {
-            int sum = sumOfRun(first, n);
+        for (int first = 1; first + n - 1 <= now.last(); first++) {
+            int sum = sumOfRun(now, first, n);
             if (sum > most) {
                 most = sum;
                 best = first;
@@ -275,9 +268,10 @@ public final class NumberedWaves {
         if (!isFrom(many, 0, TIMES)) {
             return BAD;
         }
+        Waves now = waves();
         // At the deepest no WAVE can break: six SWELLS of 9 are 54 high.
         for (int v = 0; v < DEEPEST; v++) {
-            if (breakingAt(v) <= many) {
+            if (now.breakingBy(v) <= many) {
                 return v;
             }
         }
@@ -288,12 +282,13 @@ public final class NumberedWaves {
         if (!isBelow(holder, HOLDERS) || !isBelow(what, 2)) {
             return BAD;
         }
+        Waves now = waves();
         int best = NONE;
         int most = 0;
         for (int number = 1; number <= NUMBERS; number++) {
             // One more of a NUMBER that is told already would be COUNTERFEIT.
             if (tickets.firstWithSecond(number) == NONE) {
-                int worth = worthOf(number);
+                int worth = worthOf(now, number);
                 if (worth > most) {
                     most = worth;
                     best = number;
@@ -303,7 +298,7 @@ public final class NumberedWaves {
         if (best == NONE) {
             return NONE;
         }
-        return what == 0 ? best : claims(holder) + most;
+        return what == 0 ? best : claimsBy(now, holder) + most;
     }
 
     // ---- heard, storms
@@ -325,9 +320,10 @@ public final class NumberedWaves {
         if (!isFrom(many, 1, MOST_SKIPPED)) {
             return BAD;
         }
+        Waves now = waves();
         int bits = 0;
         for (int k = 1; k <= SKIP_PLACES; k++) {
-            if (fitsSlip(k, many)) {
+            if (fitsSlip(now, k, many)) {
                 bits |= 1 << (k - 1);
             }
         }
@@ -338,9 +334,10 @@ public final class NumberedWaves {
         if (!isFrom(i, NONE, TIMES - 1)) {
             return BAD;
         }
+        Waves now = waves();
         int found = 0;
         for (int time = 0; time < TIMES; time++) {
-            if (fitsWake(time)) {
+            if (fitsWake(now, time)) {
                 if (found == i) {
                     return time;
                 }
@@ -354,10 +351,11 @@ public final class NumberedWaves {
         if (!isBelow(swell, swells.entries) || !isFrom(i, NONE, MOST_PERIOD - LEAST_PERIOD)) {
             return BAD;
         }
+        Waves now = waves();
         int end = markDueNumbers();
         int found = 0;
         for (int period = LEAST_PERIOD; period <= MOST_PERIOD; period++) {
-            if (fitsPeriod(swell, period, end)) {
+            if (fitsPeriod(now, swell, period, end)) {
                 if (found == i) {
                     return period;
                 }
@@ -481,7 +479,7 @@ public final class NumberedWaves {
             case 1: return finds.entries;
             case 2: return swells.length;
             case 3: return finds.length;
-            case 4: return breakingAt(deep);
+            case 4: return waves().breakingBy(deep);
             case 5: return tickets.size;
             case 6: return waves().last();
             case 7: return sayings.size;
@@ -663,17 +661,6 @@ public final class NumberedWaves {
         return height >= 1 && height >= depth;
     }
 
-    private int breakingAt(int depth) {
-        Waves now = waves();
-        int many = 0;
-        for (int time = 0; time < TIMES; time++) {
-            if (breaksAt(now.heights[time], depth)) {
-                many++;
-            }
-        }
-        return many;
-    }
-
     private int valueOf(int number) {
         int sum = 0;
         for (int i = 0; i < finds.entries; i++) {
@@ -686,8 +673,7 @@ public final class NumberedWaves {
     }
 
     /** What the HOLDER of a NUMBER has by it: of its own WAVE, and of a DOUBLE one just ahead. */
-    private int worthOf(int number) {
-        Waves now = waves();
+    private int worthOf(Waves now, int number) {
         int sum = 0;
         int time = now.times[number];
         if (time != NONE) {
@@ -700,8 +686,18 @@ public final class NumberedWaves {
         return sum;
     }
 
-    private int sumOfRun(int first, int n) {
-        Waves now = waves();
+    private int claimsBy(Waves now, int holder) {
+        int sum = 0;
+        for (int i = 0; i < tickets.size; i++) {
+            int number = tickets.second[i];
+            if (tickets.first[i] == holder && tickets.firstWithSecond(number) == i) {
+                sum += worthOf(now, number);
+            }
+        }
+        return sum;
+    }
+
+    private int sumOfRun(Waves now, int first, int n) {
         int sum = 0;
         for (int number = first; number < first + n; number++) {
             if (now.times[number] != NONE) {
@@ -733,8 +729,7 @@ public final class NumberedWaves {
 
     // ---- what was heard
 
-    private boolean fitsSlip(int k, int many) {
-        Waves now = waves();
+    private boolean fitsSlip(Waves now, int k, int many) {
         for (int i = 0; i < sayings.size; i++) {
             int turn = now.turns[sayings.first[i]];
             int number = now.numbers[turn] + (turn >= k ? many : 0);
@@ -745,8 +740,7 @@ public final class NumberedWaves {
         return true;
     }
 
-    private boolean fitsWake(int wakeTime) {
-        Waves now = waves();
+    private boolean fitsWake(Waves now, int wakeTime) {
         boolean wasCalled = now.turns[wakeTime] > 0;
         for (int i = 0; i < sayings.size; i++) {
             int time = sayings.first[i];
@@ -775,8 +769,7 @@ public final class NumberedWaves {
         return end;
     }
 
-    private boolean fitsPeriod(int swell, int period, int end) {
-        Waves now = waves();
+    private boolean fitsPeriod(Waves now, int swell, int period, int end) {
         int height = swells.part(swell, 0);
         int own = swells.part(swell, 1);
         int start = swells.part(swell, 2);
@@ -953,6 +946,16 @@ public final class NumberedWaves {
 
         int last() {
             return numbers[calls];
+        }
+
+        int breakingBy(int depth) {
+            int many = 0;
+            for (int time = 0; time < TIMES; time++) {
+                if (breaksAt(heights[time], depth)) {
+                    many++;
+                }
+            }
+            return many;
         }
 
         void reckon(Text swells, int depth, Pairs wakes, Pairs slips) {

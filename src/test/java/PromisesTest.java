@@ -268,6 +268,14 @@ public final class PromisesTest {
         is("slip(80, 1) of too many", x.slip(80, 1), FULL);
         is("slip(0, 1) of too many", x.slip(0, 1), BAD);
         is("count(6)", x.count(6), 80 + 3 + 11 + 1 + 8 * 11);
+        NumberedWaves y = coast("10200;10201", "");
+        is("wave(239, 1): the 240th", y.wave(239, 1), 240);
+        for (int i = 0; i < 12; i++) {
+            y.slip(240, 11);
+        }
+        is("wave(238, 1)", y.wave(238, 1), 239);
+        is("wave(239, 1): the highest NUMBER", y.wave(239, 1), 372);
+        is("when(372)", y.when(372), 239);
     }
 
     private static void wake() {
