@@ -110,6 +110,10 @@ public final class PromisesTest {
         is("type(1, 48) of a full one", x.type(1, 48), FULL);
         is("count(2)", x.count(2), 35);
         is("count(3)", x.count(3), 47);
+        NumberedWaves y = coast("1020", "");
+        is("high(0), not ended", y.high(0), 0);
+        is("type(0, 48)", y.type(0, '0'), 5);
+        is("high(0), ended behind a question", y.high(0), 1);
     }
 
     private static void wipe() {
@@ -657,6 +661,8 @@ public final class PromisesTest {
         is("earn(0, 0)", z.earn(0, 0), 2);
         NumberedWaves w = coast(TWINS, "01001");
         is("earn(0, 0): half of 1 is cut", w.earn(0, 0), NONE);
+        NumberedWaves v = coast(THREES, "01005");
+        is("earn(0, 0): of like ones the least", v.earn(0, 0), 1);
     }
 
     private static void heard() {
