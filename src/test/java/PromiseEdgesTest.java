@@ -52,6 +52,7 @@ public final class PromiseEdgesTest {
         writtenBits();
         counts();
         digests();
+        digestsByItsNumbers();
         DUE.end();
     }
 
@@ -472,6 +473,8 @@ public final class PromiseEdgesTest {
         earnIs(x, 1, 3, 5);
         x.wipe(1);
         earnIs(x, 1, NONE, NONE);
+        earnIs(coast(SELDOM, "01001"), 0, 1, 1);
+        earnIs(coast("19900;19900", "01001"), 0, NONE, NONE);
         earnIs(coast("", "01005"), 0, NONE, NONE);
         earnIs(coast(SELDOM, "01000"), 0, NONE, NONE);
         of("one TICKET more, told behind all others");
@@ -879,11 +882,7 @@ public final class PromiseEdgesTest {
         of("h is 17; h becomes 31 h and each of: ..; as longs that wrap");
         is("digest() of a new one", new NumberedWaves().digest(), 3142145006806097604L);
         for (States state : States.values()) {
-            BigInteger h = BigInteger.valueOf(17);
-            for (long each : terms(state.make())) {
-                h = h.multiply(BigInteger.valueOf(31)).add(BigInteger.valueOf(each));
-            }
-            is("digest() of a " + state + " one", state.make().digest(), h.longValue());
+            is("digest() of a " + state + " one", state.make().digest(), digestOf(state.make()));
             NumberedWaves x = state.make();
             x.digest();
             DUE.is("count(8) behind digest()", x.count(8), state.latestFinding());
@@ -892,6 +891,34 @@ public final class PromiseEdgesTest {
         NumberedWaves one = coast("10200", "");
         one.digest();
         is("count(8): agree(0, 0, 5, 0) 'as it is told' is BAD, no FINDING", one.count(8), 0);
+    }
+
+    /** Coasts by which each number that the sentence names answers unlike the one below or above it. */
+    private static void digestsByItsNumbers() {
+        of("agree(0, it, 5, 0 and 1) .. bar(9), skipped(1)");
+        // Both have a CREST at 4; at 5; 9 WAVES; 10.
+        String[] swells = {"10404;10404", "10505;10505", "12424", "12400"};
+        for (int i = 0; i < swells.length; i++) {
+            NumberedWaves x = coast(swells[i], "01002");
+            x.heard(24, x.wave(24, 1) == 0 ? 0 : x.wave(24, 1) + 1);
+            is("digest() of " + swells[i], x.digest(), digestOf(x));
+        }
+        is("agree(0, 1, 4, 0)", coast(swells[0], "").agree(0, 1, 4, 0), 4);
+        is("agree(0, 1, 5, 0)", coast(swells[0], "").agree(0, 1, 5, 0), 8);
+        is("agree(0, 1, 5, 0)", coast(swells[1], "").agree(0, 1, 5, 0), 5);
+        is("agree(0, 1, 6, 0)", coast(swells[1], "").agree(0, 1, 6, 0), 10);
+        is("bar(9)", coast(swells[2], "").bar(9), 0);
+        is("bar(8)", coast(swells[2], "").bar(8), 2);
+        is("bar(10)", coast(swells[3], "").bar(10), 0);
+        is("bar(9)", coast(swells[3], "").bar(9), 2);
+    }
+
+    private static long digestOf(NumberedWaves x) {
+        BigInteger h = BigInteger.valueOf(17);
+        for (long each : terms(x)) {
+            h = h.multiply(BigInteger.valueOf(31)).add(BigInteger.valueOf(each));
+        }
+        return h.longValue();
     }
 
     private static List<Long> terms(NumberedWaves x) {

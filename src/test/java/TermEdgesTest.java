@@ -157,6 +157,15 @@ public final class TermEdgesTest {
         is("wake(0), void twice", y.wake(0), 4);
         is("back(1)", y.back(1), 3);
         is("wave(0, 1): void still", y.wave(0, 1), 0);
+        NumberedWaves z = coast(ALL, "");
+        z.wake(239);
+        z.wake(0);
+        is("wave(239, 1), both void", z.wave(239, 1), 0);
+        z.back(1);
+        is("wave(0, 1), no more void", z.wave(0, 1), 1);
+        is("wave(239, 1), void still", z.wave(239, 1), 0);
+        z.back(1);
+        is("wave(239, 1), no more void", z.wave(239, 1), 240);
     }
 
     private static void turns() {
